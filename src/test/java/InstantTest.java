@@ -12,6 +12,9 @@ public final class InstantTest {
         ends();
         sameThings();
         timesAtTheEnds();
+        edgesAtTheEnds();
+        edgeAtLastTime();
+        oldRules();
         finds();
         wrong();
         Kit.end();
@@ -208,6 +211,9 @@ public final class InstantTest {
         steps(z, 30L, 32L, 33L);
         Kit.due("no step behind", z.next(0, 33L), ZoneFiles.NEVER);
         Kit.due("the type is another, though", z.at(0, 20L, 3), 2);
+        tape.chars = "ABCD\0XBCD\0XABCX\0ABCE\0";
+        ZoneFiles other = Kit.filed(tape);
+        steps(other, 10L, 20L, 30L, 32L, 33L);
         Kit.due("the RULE tells it", z.at(0, 33L, 3), -1);
     }
 
@@ -223,6 +229,55 @@ public final class InstantTest {
         Kit.due("but not below itself", z.last(0, Kit.GREATEST), Kit.LEAST + 1);
         has(z, Kit.LEAST, -14400, 1, "EDT", 1);
         hasNothing(z, Kit.GREATEST);
+    }
+
+    /** A RULE that begins at an INSTANT, of any year, by its month and day. */
+    private static String ruleThatBeginsAt(ZoneFiles z, long t) {
+        int[] starts = {0, 31, 59, 90, 120, 151, 181, 212, 243, 273, 304, 334};
+        long day = starts[(int) z.clock(t, 1) - 1] + z.clock(t, 2);
+        String time = z.clock(t, 3) + ":" + z.clock(t, 4) + ":" + z.clock(t, 5);
+        return "AAA0BBB0,J" + day + "/" + time + ",J" + (day > 200 ? day - 100 : day + 100);
+    }
+
+    private static void edgesAtTheEnds() {
+        ZoneFiles z = new ZoneFiles();
+        Kit.due("rule", Kit.rule(z, 0, ruleThatBeginsAt(z, Kit.GREATEST), false), 0);
+        Kit.due("SUMMER begins", z.at(0, Kit.GREATEST, 1), 1);
+        Kit.due("before", z.at(0, Kit.GREATEST - 1, 1), 0);
+        Kit.due("the greatest INSTANT is a step", z.next(0, Kit.GREATEST - 1), Kit.GREATEST);
+        Kit.due("rule", Kit.rule(z, 0, ruleThatBeginsAt(z, Kit.LEAST), false), 0);
+        Kit.due("SUMMER begins", z.at(0, Kit.LEAST, 1), 1);
+        Kit.due("the least INSTANT is no step", z.last(0, Kit.LEAST + 1), ZoneFiles.NEVER);
+        Kit.due("the least INSTANT is no step", z.last(0, Kit.LEAST + 86400), ZoneFiles.NEVER);
+        Kit.due("rule", Kit.rule(z, 0, ruleThatBeginsAt(z, Kit.LEAST + 1), false), 0);
+        Kit.due("the one behind is", z.last(0, Kit.LEAST + 2), Kit.LEAST + 1);
+        Kit.due("the one behind is", z.next(0, Kit.LEAST), Kit.LEAST + 1);
+        Kit.due("rule", Kit.rule(z, 0, ruleThatBeginsAt(z, Kit.GREATEST - 86400L * 365L), false), 0);
+        Kit.due("an end behind the greatest INSTANT is none", z.next(0, Kit.GREATEST - 86400L), ZoneFiles.NEVER);
+    }
+
+    /** The RULE begins a SUMMER at the last time, but there was the same already. */
+    private static void edgeAtLastTime() {
+        Kit.Tape tape = newYork();
+        tape.timeTypes = new int[] {2, 1, 1};
+        ZoneFiles z = Kit.filed(tape);
+        steps(z, 1000L, 2000L, 1730613600L);
+        Kit.due("last", z.last(0, 1710054001L), 2000L);
+    }
+
+    /** Rules without a SUMMER in the place of rules with one. */
+    private static void oldRules() {
+        ZoneFiles z = new ZoneFiles();
+        for (int i = 0; i < 3; i++) {
+            Kit.due("rule", Kit.rule(z, 0, "EST5EDT,M3.2.0,M11.1.0", false), 0);
+        }
+        for (int i = 0; i < 3; i++) {
+            Kit.due("rule", Kit.rule(z, 0, "EST5", false), 0);
+            Kit.due("next", z.next(0, 0L), ZoneFiles.NEVER);
+            Kit.due("last", z.last(0, 0L), ZoneFiles.NEVER);
+            has(z, 1720000000L, -18000, 0, "EST", -1);
+            found(z, 1720000000L, 1720018000L);
+        }
     }
 
     private static void found(ZoneFiles z, long s, long... instants) {

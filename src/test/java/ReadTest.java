@@ -4,6 +4,7 @@ import java.util.Arrays;
 public final class ReadTest {
     public static void main(String[] args) {
         whatWasRead();
+        oldMarks();
         headerFaults();
         blockFaults();
         nameFaults();
@@ -75,6 +76,25 @@ public final class ReadTest {
         Kit.due("rule", z.zone(0, 7), 0);
         Kit.dueThrow("time", Kit.INDEX, () -> z.time(0, 0));
         Kit.due("STD", z.type(0, 0, 4), 0);
+    }
+
+    /** Each zone and what is read aside of it had marks before: nothing of them is left. */
+    private static void oldMarks() {
+        Kit.Tape none = new Kit.Tape();
+        Kit.Tape wrong = new Kit.Tape();
+        wrong.uts = new int[] {1};
+        ZoneFiles z = Kit.filed(rich(50));
+        for (int i = 0; i < 3; i++) {
+            Kit.due("read", Kit.read(z, 0, rich(50).bytes()), 0);
+            Kit.due("STD", z.type(0, 0, 4), 1);
+            Kit.due("UT", z.type(0, 0, 5), 1);
+        }
+        Kit.due("UT 1 without STD", Kit.read(z, 0, wrong.bytes()), 13);
+        for (int i = 0; i < 2; i++) {
+            Kit.due("read", Kit.read(z, 0, none.bytes()), 0);
+            Kit.due("no STD", z.type(0, 0, 4), 0);
+            Kit.due("no UT", z.type(0, 0, 5), 0);
+        }
     }
 
     private static void fault(String what, byte[] tape, int fault, int place) {
@@ -196,6 +216,8 @@ public final class ReadTest {
         for (char c : "@[`{/:*,. <>".toCharArray()) {
             nameFault("a bad byte " + c, "ab" + c + "\0", 4, false);
         }
+        nameFault("a bad first byte", "_abc\0", 4, false);
+        nameFault("a bad last byte", "abc_\0", 4, false);
         nameFault("a byte above 127", "ab\u00e9\0", 4, false);
         nameFault("bytes that no record has may be anything", "abc\0\u00ff!", 4, true);
         Kit.Tape tape = rich(50);
@@ -306,6 +328,13 @@ public final class ReadTest {
         lastTimeFault("<+03>-3", 0L, 10800, 0, "+03", true);
         lastTimeFault("<+03>-3", 0L, 10800, 1, "+03", false);
         lastTimeFault("", 0L, 10800, 1, "ANY", true);
+        Kit.Tape one = new Kit.Tape();
+        one.times = new long[] {5L};
+        one.timeTypes = new int[] {0};
+        one.rule = "XTC0";
+        fault("the only time does not fit", one.bytes(), 17, one.place(7) + 1);
+        one.rule = "UTC0";
+        Kit.due("the only time fits", Kit.read(new ZoneFiles(), 0, one.bytes()), 0);
         Kit.Tape none = new Kit.Tape();
         none.rule = "XYZ9";
         Kit.due("without times all fits", Kit.read(new ZoneFiles(), 0, none.bytes()), 0);

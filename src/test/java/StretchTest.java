@@ -108,6 +108,15 @@ public final class StretchTest {
         Kit.due("stretch", z.stretch(0, 1970), 5);
         Kit.due("the first place of the NAME and a 0", z.type(0, 2, 2), 1);
         Kit.due("CHAR stays", z.zone(0, 3), 15);
+        tape.chars = "CEST\0 CET\0";
+        Kit.due("the NAME at 0", Kit.filed(tape).stretch(0, 1970), 5);
+        ZoneFiles first = Kit.filed(tape);
+        first.stretch(0, 1970);
+        Kit.due("the NAME at 0", first.type(0, 2, 2), 0);
+        tape.chars = "DEST\0 CET\0";
+        ZoneFiles other = Kit.filed(tape);
+        other.stretch(0, 1970);
+        Kit.due("another NAME", other.type(0, 2, 2), 10);
         tape.chars = "CESTX\0CET\0CES";
         ZoneFiles w = Kit.filed(tape);
         Kit.due("stretch", w.stretch(0, 1970), 5);
@@ -135,6 +144,15 @@ public final class StretchTest {
         z.write(0, 51);
         z.again();
         Kit.due("it can be read again", z.read(1), 0);
+        Kit.Tape one = paris();
+        one.types = new int[][] {{3600, 0, 4}};
+        one.timeTypes = new int[] {0};
+        one.stds = new int[] {1};
+        one.uts = new int[] {1};
+        ZoneFiles v = Kit.filed(one);
+        Kit.due("stretch", v.stretch(0, 1970), 5);
+        Kit.due("STD of one type and another", v.zone(0, 5), 2);
+        Kit.due("UT of one type and another", v.zone(0, 6), 2);
     }
 
     private static void stays(String what, ZoneFiles z, int year) {

@@ -161,17 +161,21 @@ public final class TableTest {
 
     /** Counts atomic seconds one by one over rows that go up and down. */
     private static void everySecond() {
+        everySecond(3, 4, 3, 2, 3);
+        everySecond(0, 1, 2, 1);
+    }
+
+    private static void everySecond(int... ahead) {
         ZoneFiles z = new ZoneFiles();
-        int[] ahead = {3, 4, 3, 2, 3};
         StringBuilder text = new StringBuilder();
         for (int i = 0; i < ahead.length; i++) {
             text.append(86400L * (i + 1)).append(' ').append(ahead[i]).append('\n');
         }
-        text.append("#@").append(86400L * 6 - 100).append('\n');
+        text.append("#@").append(86400L * (ahead.length + 1) - 100).append('\n');
         Kit.due("table", Kit.table(z, text.toString()), 0);
         long first = 86400L - TO_1970;
-        long expires = 86400L * 6 - 100 - TO_1970;
-        long a = first + 3;
+        long expires = 86400L * (ahead.length + 1) - 100 - TO_1970;
+        long a = first + ahead[0];
         for (long t = first; t < expires; t++) {
             int day = (int) ((t - first) / 86400);
             boolean lastOfDay = (t - first) % 86400 == 86399 && day + 1 < ahead.length;
@@ -193,6 +197,6 @@ public final class TableTest {
         }
         Kit.due("instant behind all", z.instant(a), ZoneFiles.NEVER);
         Kit.due("leap behind all", z.isLeap(a), false);
-        Kit.due("instant before all", z.instant(first + 2), ZoneFiles.NEVER);
+        Kit.due("instant before all", z.instant(first + ahead[0] - 1), ZoneFiles.NEVER);
     }
 }

@@ -88,6 +88,9 @@ public final class WriteTest {
         ZoneFiles z = Kit.filed(tape);
         Kit.dueThrow("a leap record's time of more bytes", Kit.STATE, () -> z.write(0, 0));
         Kit.due("as 51", z.write(0, 51), 51 + 44 + 6 + 4 + 24 + 2);
+        tape.leaps = new long[][] {{1L << 31, 1}};
+        ZoneFiles one = Kit.filed(tape);
+        Kit.dueThrow("the only leap record's time", Kit.STATE, () -> one.write(0, 0));
     }
 
     private static void again() {
