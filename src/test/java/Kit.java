@@ -1,5 +1,6 @@
 import java.io.ByteArrayOutputStream;
 import java.nio.charset.StandardCharsets;
+import java.util.Arrays;
 
 /** What the tests share: answers that are due, and tapes. */
 final class Kit {
@@ -11,6 +12,7 @@ final class Kit {
 
     private static int wrong = 0;
     private static int asked = 0;
+    private static String sentence = "";
 
     interface Call {
         long answer();
@@ -19,11 +21,24 @@ final class Kit {
     private Kit() {
     }
 
+    /** What is asked from now on tests these words of the document, as that promise needs them. */
+    static void sentence(int promise, String words) {
+        sentence = "promise " + promise + ", '" + words + "': ";
+    }
+
     static void due(String call, long got, long want) {
         asked++;
         if (got != want) {
             wrong++;
-            System.out.println(call + " answered " + got + ", due is " + want);
+            System.out.println(sentence + call + " answered " + got + ", due is " + want);
+        }
+    }
+
+    static void due(String call, String got, String want) {
+        asked++;
+        if (!got.equals(want)) {
+            wrong++;
+            System.out.println(sentence + call + " answered " + got + ", due is " + want);
         }
     }
 
@@ -43,7 +58,7 @@ final class Kit {
             got = "threw " + e;
         }
         wrong++;
-        System.out.println(call + " " + got + ", due is " + want.getSimpleName());
+        System.out.println(sentence + call + " " + got + ", due is " + want.getSimpleName());
     }
 
     static void end() {
@@ -55,6 +70,19 @@ final class Kit {
 
     static byte[] bytes(String text) {
         return text.getBytes(StandardCharsets.ISO_8859_1);
+    }
+
+    /** A tape with other octets from a place on. */
+    static byte[] with(byte[] tape, int place, int... octets) {
+        byte[] copy = tape.clone();
+        for (int i = 0; i < octets.length; i++) {
+            copy[place + i] = (byte) octets[i];
+        }
+        return copy;
+    }
+
+    static byte[] cut(byte[] tape, int size) {
+        return Arrays.copyOf(tape, size);
     }
 
     static void feed(ZoneFiles z, byte[] tape) {
@@ -119,6 +147,30 @@ final class Kit {
             all.append((char) z.letter(zone, which, i));
         }
         return all.toString();
+    }
+
+    /** A FILE with as much in each row as there may be; it has no RULE. */
+    static Tape full(int version) {
+        Tape tape = new Tape();
+        tape.version = version;
+        tape.times = new long[200];
+        tape.timeTypes = new int[200];
+        for (int i = 0; i < 200; i++) {
+            tape.times[i] = 1000L * i - 7L;
+            tape.timeTypes[i] = i % 40;
+        }
+        tape.types = new int[40][];
+        tape.leaps = new long[40][];
+        tape.stds = new int[40];
+        tape.uts = new int[40];
+        for (int i = 0; i < 40; i++) {
+            tape.types[i] = new int[] {60 * i, i & 1, 5 * i};
+            tape.leaps[i] = new long[] {2419199L * i, i + 1};
+            tape.stds[i] = 1;
+            tape.uts[i] = i & 1;
+        }
+        tape.chars = "abcd\0".repeat(40);
+        return tape;
     }
 
     /** A FILE in the making. */

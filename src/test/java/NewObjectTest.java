@@ -7,10 +7,37 @@ import java.util.TreeSet;
 
 /** The public face, and promises 1 (a new object) and 2 (feed). */
 public final class NewObjectTest {
-    private static final String FACE = "again() at(int,long,int) atomic(long) clock(long,int) feed(int,long) find(int,long) "
-            + "found(int) instant(long) isLeap(long) last(int,long) leap(int,int,int) letter(int,int,int) name(int,long,int) "
-            + "next(int,long) out(int) place() read(int) row(int,int) rule(int,boolean) seconds(long,int,int,int) "
-            + "stretch(int,int) table() time(int,int) told(int) type(int,int,int) typeAt(int,int) write(int,int) zone(int,int)";
+    /** What each method answers, takes and throws, the exceptions in the order in which they are named. */
+    private static final String[] FACE = {
+        "int again()",
+        "int at(int,long,int) I A",
+        "long atomic(long)",
+        "long clock(long,int) I A",
+        "int feed(int,long) A",
+        "int find(int,long) I A",
+        "long found(int) I",
+        "long instant(long)",
+        "boolean isLeap(long)",
+        "long last(int,long) I A",
+        "long leap(int,int,int) I",
+        "int letter(int,int,int) I",
+        "int name(int,long,int) I A S",
+        "long next(int,long) I A",
+        "int out(int) I",
+        "int place()",
+        "int read(int) I",
+        "long row(int,int) I",
+        "int rule(int,boolean) I",
+        "long seconds(long,int,int,int) A",
+        "int stretch(int,int) I A S",
+        "int table()",
+        "long time(int,int) I",
+        "long told(int) I S",
+        "int type(int,int,int) I",
+        "int typeAt(int,int) I",
+        "int write(int,int) I A S",
+        "int zone(int,int) I",
+    };
 
     public static void main(String[] args) {
         face();
@@ -20,17 +47,17 @@ public final class NewObjectTest {
     }
 
     private static void face() {
-        Set<String> names = new TreeSet<>();
+        Set<String> methods = new TreeSet<>();
         for (Method m : ZoneFiles.class.getDeclaredMethods()) {
             if (!Modifier.isPrivate(m.getModifiers())) {
-                StringBuilder name = new StringBuilder(m.getName()).append('(');
-                for (Class<?> c : m.getParameterTypes()) {
-                    name.append(name.charAt(name.length() - 1) == '(' ? "" : ",").append(c.getSimpleName());
-                }
-                names.add(name.append(')').toString());
+                Kit.due(m.getName() + " is public, and of the object", m.getModifiers(), Modifier.PUBLIC);
+                methods.add(face(m));
             }
         }
-        Kit.due("the face has just its methods: " + names, String.join(" ", names).equals(FACE), true);
+        Kit.due("how many methods", methods.size(), FACE.length);
+        for (String due : FACE) {
+            Kit.due("there is " + due, methods.contains(due), true);
+        }
         int fields = 0;
         for (Field f : ZoneFiles.class.getDeclaredFields()) {
             fields += Modifier.isPrivate(f.getModifiers()) ? 0 : 1;
@@ -41,6 +68,19 @@ public final class NewObjectTest {
         Kit.due("public and final", ZoneFiles.class.getModifiers() & (Modifier.PUBLIC | Modifier.FINAL), Modifier.PUBLIC | Modifier.FINAL);
         Kit.due("NONE", ZoneFiles.NONE, Integer.MIN_VALUE);
         Kit.due("NEVER", ZoneFiles.NEVER, Long.MIN_VALUE);
+    }
+
+    private static String face(Method m) {
+        StringBuilder face = new StringBuilder();
+        face.append(m.getReturnType().getSimpleName()).append(' ').append(m.getName()).append('(');
+        for (Class<?> c : m.getParameterTypes()) {
+            face.append(face.charAt(face.length() - 1) == '(' ? "" : ",").append(c.getSimpleName());
+        }
+        face.append(')');
+        for (Class<?> c : m.getExceptionTypes()) {
+            face.append(c == Kit.INDEX ? " I" : c == Kit.ARGUMENT ? " A" : c == Kit.STATE ? " S" : " ?");
+        }
+        return face.toString();
     }
 
     private static void newObject() {

@@ -103,75 +103,63 @@ public final class ReadTest {
         Kit.due(what + ": place", z.place(), place);
     }
 
-    private static byte[] with(byte[] tape, int place, int... octets) {
-        byte[] copy = tape.clone();
-        for (int i = 0; i < octets.length; i++) {
-            copy[place + i] = (byte) octets[i];
-        }
-        return copy;
-    }
-
-    private static byte[] cut(byte[] tape, int size) {
-        return Arrays.copyOf(tape, size);
-    }
-
     private static void headerFaults() {
         Kit.Tape tape = rich(50);
         byte[] good = tape.bytes();
         int second = tape.place(0) - 44;
         for (int start : new int[] {0, second}) {
             for (int i = 0; i < 4; i++) {
-                byte[] bad = with(good, start + i, 0);
+                byte[] bad = Kit.with(good, start + i, 0);
                 fault("magic " + i, bad, 2, start + i);
-                fault("magic, tape ends there", cut(bad, start + i + 1), 2, start + i);
-                fault("magic, tape ends before", cut(bad, start + i), 1, start + i);
+                fault("magic, tape ends there", Kit.cut(bad, start + i + 1), 2, start + i);
+                fault("magic, tape ends before", Kit.cut(bad, start + i), 1, start + i);
             }
-            byte[] bad = with(good, start + 4, 49);
+            byte[] bad = Kit.with(good, start + 4, 49);
             fault("version", bad, 3, start + 4);
-            fault("version, tape ends there", cut(bad, start + 5), 3, start + 4);
-            fault("version, tape ends before", cut(bad, start + 4), 1, start + 4);
-            fault("magic comes before version", with(bad, start + 3, 1), 2, start + 3);
-            fault("version comes before the end", cut(bad, start + 20), 3, start + 4);
+            fault("version, tape ends there", Kit.cut(bad, start + 5), 3, start + 4);
+            fault("version, tape ends before", Kit.cut(bad, start + 4), 1, start + 4);
+            fault("magic comes before version", Kit.with(bad, start + 3, 1), 2, start + 3);
+            fault("version comes before the end", Kit.cut(bad, start + 20), 3, start + 4);
             int[] wrongCounts = {1, 1, 41, 201, 41, 201};
             for (int i = 0; i < 6; i++) {
                 int place = start + 20 + 4 * i;
-                fault("count " + i, with(good, place, 0, 0, 0, wrongCounts[i]), 4, i == 4 && good[start + 23] != 0 ? start + 20 : place);
-                fault("great count " + i, with(good, place, 128, 0, 0, 0), 4, i == 4 && good[start + 23] != 0 ? start + 20 : place);
-                fault("count, but the header is cut", cut(with(good, place, 0, 0, 0, wrongCounts[i]), start + 43), 1, start + 43);
+                fault("count " + i, Kit.with(good, place, 0, 0, 0, wrongCounts[i]), 4, i == 4 && good[start + 23] != 0 ? start + 20 : place);
+                fault("great count " + i, Kit.with(good, place, 128, 0, 0, 0), 4, i == 4 && good[start + 23] != 0 ? start + 20 : place);
+                fault("count, but the header is cut", Kit.cut(Kit.with(good, place, 0, 0, 0, wrongCounts[i]), start + 43), 1, start + 43);
             }
-            fault("no CHAR", with(good, start + 40, 0, 0, 0, 0), 4, start + 40);
+            fault("no CHAR", Kit.with(good, start + 40, 0, 0, 0, 0), 4, start + 40);
         }
-        fault("second version is another good one", with(good, second + 4, 51), 3, second + 4);
-        fault("second version 0", with(good, second + 4, 0), 3, second + 4);
+        fault("second version is another good one", Kit.with(good, second + 4, 51), 3, second + 4);
+        fault("second version 0", Kit.with(good, second + 4, 0), 3, second + 4);
         Kit.Tape plain = new Kit.Tape();
         byte[] bytes = plain.bytes();
-        fault("no TYPE", with(bytes, 36, 0, 0, 0, 0), 4, 36);
-        fault("UT as a TYPE that is too great", with(with(bytes, 36, 0, 0, 0, 41), 20, 0, 0, 0, 41), 4, 36);
-        fault("STD as TYPE, UT not", with(with(bytes, 20, 0, 0, 0, 2), 24, 0, 0, 0, 1), 4, 20);
+        fault("no TYPE", Kit.with(bytes, 36, 0, 0, 0, 0), 4, 36);
+        fault("UT as a TYPE that is too great", Kit.with(Kit.with(bytes, 36, 0, 0, 0, 41), 20, 0, 0, 0, 41), 4, 36);
+        fault("STD as TYPE, UT not", Kit.with(Kit.with(bytes, 20, 0, 0, 0, 2), 24, 0, 0, 0, 1), 4, 20);
         fault("empty tape", new byte[0], 1, 0);
-        fault("two great counts", with(bytes, 28, 0, 0, 1, 0, 0, 0, 1, 0), 4, 28);
+        fault("two great counts", Kit.with(bytes, 28, 0, 0, 1, 0, 0, 0, 1, 0), 4, 28);
     }
 
     private static void blockFaults() {
         Kit.Tape tape = rich(51);
         byte[] good = tape.bytes();
         int times = tape.place(0);
-        fault("first time below", with(good, times, 0xF0, 0, 0, 0, 0, 0, 0, 0), 5, times);
-        fault("last time above", with(good, times + 16, 0x10, 0, 0, 0, 0, 0, 0, 0), 5, times + 16);
-        fault("the same time", with(good, times + 16, 0, 0, 0, 0, 0, 0, 0, 0), 5, times + 16);
-        fault("a lesser time", with(good, times + 8, 0xFF, 0xFF, 0xFF, 0xFF, 0xFF, 0xFF, 0, 0), 5, times + 8);
+        fault("first time below", Kit.with(good, times, 0xF0, 0, 0, 0, 0, 0, 0, 0), 5, times);
+        fault("last time above", Kit.with(good, times + 16, 0x10, 0, 0, 0, 0, 0, 0, 0), 5, times + 16);
+        fault("the same time", Kit.with(good, times + 16, 0, 0, 0, 0, 0, 0, 0, 0), 5, times + 16);
+        fault("a lesser time", Kit.with(good, times + 8, 0xFF, 0xFF, 0xFF, 0xFF, 0xFF, 0xFF, 0, 0), 5, times + 8);
         int types = tape.place(1);
-        fault("type", with(good, types + 1, 3), 6, types + 1);
-        fault("type 255", with(good, types, 255), 6, types);
+        fault("type", Kit.with(good, types + 1, 3), 6, types + 1);
+        fault("type 255", Kit.with(good, types, 255), 6, types);
         int records = tape.place(2);
-        fault("offset above", with(good, records + 12, 0, 1, 0x6D, 0xA0), 7, records + 12);
-        fault("offset below", with(good, records, 0xFF, 0xFE, 0xA0, 0x70), 7, records);
-        fault("DST", with(good, records + 10, 2), 8, records + 10);
-        fault("DST 255", with(good, records + 4, 255), 8, records + 4);
-        fault("index", with(good, records + 17, 18), 9, records + 17);
-        fault("byte after byte: DST 0 before offset 1", with(with(good, records + 4, 2), records + 6, 0x7F), 8, records + 4);
-        fault("byte after byte: time before type", with(with(good, times + 16, 0, 0, 0, 0, 0, 0, 0, 0), types, 9), 5, times + 16);
-        fault("byte after byte: type before offset", with(with(good, records, 0x7F), types + 2, 9), 6, types + 2);
+        fault("offset above", Kit.with(good, records + 12, 0, 1, 0x6D, 0xA0), 7, records + 12);
+        fault("offset below", Kit.with(good, records, 0xFF, 0xFE, 0xA0, 0x70), 7, records);
+        fault("DST", Kit.with(good, records + 10, 2), 8, records + 10);
+        fault("DST 255", Kit.with(good, records + 4, 255), 8, records + 4);
+        fault("index", Kit.with(good, records + 17, 18), 9, records + 17);
+        fault("byte after byte: DST 0 before offset 1", Kit.with(Kit.with(good, records + 4, 2), records + 6, 0x7F), 8, records + 4);
+        fault("byte after byte: time before type", Kit.with(Kit.with(good, times + 16, 0, 0, 0, 0, 0, 0, 0, 0), types, 9), 5, times + 16);
+        fault("byte after byte: type before offset", Kit.with(Kit.with(good, records, 0x7F), types + 2, 9), 6, types + 2);
         Kit.Tape edge = rich(51);
         edge.times = new long[] {Kit.LEAST, 0L, Kit.GREATEST};
         edge.types = new int[][] {{-89999, 0, 0}, {-14400, 1, 4}, {93599, 0, 8}};
@@ -186,7 +174,7 @@ public final class ReadTest {
         Kit.due("least time of four bytes", w.time(0, 0), Integer.MIN_VALUE);
         Kit.due("greatest time of four bytes", w.time(0, 2), Integer.MAX_VALUE);
         int oldTimes = old.place(0);
-        fault("time of four bytes", with(old.bytes(), oldTimes + 8, 0x80, 0, 0, 0), 5, oldTimes + 8);
+        fault("time of four bytes", Kit.with(old.bytes(), oldTimes + 8, 0x80, 0, 0, 0), 5, oldTimes + 8);
     }
 
     private static void nameFault(String what, String chars, int index, boolean good) {
@@ -233,12 +221,12 @@ public final class ReadTest {
             byte[] good = tape.bytes();
             int w = version == 0 ? 4 : 8;
             int place = tape.place(4);
-            fault("first time below 0", with(good, place, 0x80), 11, place);
-            fault("first correction 2", with(good, place + w + 3, 2), 12, place + w);
-            fault("first correction 0", with(good, place + w + 3, 0), 12, place + w);
-            fault("later time below 0", with(good, place + w + 4, 0x80), 11, place + w + 4);
-            fault("correction the same", with(good, place + 2 * w + 7, 1), 12, place + 2 * w + 4);
-            fault("correction 2 more", with(good, place + 2 * w + 7, 3), 12, place + 2 * w + 4);
+            fault("first time below 0", Kit.with(good, place, 0x80), 11, place);
+            fault("first correction 2", Kit.with(good, place + w + 3, 2), 12, place + w);
+            fault("first correction 0", Kit.with(good, place + w + 3, 0), 12, place + w);
+            fault("later time below 0", Kit.with(good, place + w + 4, 0x80), 11, place + w + 4);
+            fault("correction the same", Kit.with(good, place + 2 * w + 7, 1), 12, place + 2 * w + 4);
+            fault("correction 2 more", Kit.with(good, place + 2 * w + 7, 3), 12, place + 2 * w + 4);
             Kit.Tape near = rich(version);
             near.leaps[1][0]--;
             fault("too near", near.bytes(), 11, place + w + 4);
@@ -264,10 +252,10 @@ public final class ReadTest {
         byte[] good = tape.bytes();
         int std = tape.place(5);
         int ut = tape.place(6);
-        fault("STD 2", with(good, std + 1, 2), 13, std + 1);
-        fault("STD 255", with(good, std, 255), 13, std);
-        fault("UT 2", with(good, ut, 2), 13, ut);
-        fault("UT 1 where STD is 0", with(good, ut + 1, 1), 13, ut + 1);
+        fault("STD 2", Kit.with(good, std + 1, 2), 13, std + 1);
+        fault("STD 255", Kit.with(good, std, 255), 13, std);
+        fault("UT 2", Kit.with(good, ut, 2), 13, ut);
+        fault("UT 1 where STD is 0", Kit.with(good, ut + 1, 1), 13, ut + 1);
         Kit.Tape none = rich(50);
         none.stds = new int[0];
         none.uts = new int[] {0, 0, 1};
@@ -278,14 +266,14 @@ public final class ReadTest {
         Kit.Tape tape = rich(50);
         byte[] good = tape.bytes();
         int footer = tape.place(7);
-        fault("no FOOTER", cut(good, footer), 1, footer);
-        fault("FOOTER without end", cut(good, footer + 5), 1, footer + 5);
-        fault("one 10 alone", cut(good, footer + 1), 1, footer + 1);
-        fault("first byte", with(good, footer, 'E'), 14, footer);
-        fault("the tape ends, before its first byte", cut(with(good, footer, 'E'), footer + 9), 1, footer + 9);
-        fault("RULE TEXT", with(good, footer + 4, '!'), 15, footer + 4);
-        fault("a 10 within ends it", with(good, footer + 9, 10), 15, footer + 9);
-        fault("a 10 too early", with(good, footer + 3, 10), 15, footer + 3);
+        fault("no FOOTER", Kit.cut(good, footer), 1, footer);
+        fault("FOOTER without end", Kit.cut(good, footer + 5), 1, footer + 5);
+        fault("one 10 alone", Kit.cut(good, footer + 1), 1, footer + 1);
+        fault("first byte", Kit.with(good, footer, 'E'), 14, footer);
+        fault("the tape ends, before its first byte", Kit.cut(Kit.with(good, footer, 'E'), footer + 9), 1, footer + 9);
+        fault("RULE TEXT", Kit.with(good, footer + 4, '!'), 15, footer + 4);
+        fault("a 10 within ends it", Kit.with(good, footer + 9, 10), 15, footer + 9);
+        fault("a 10 too early", Kit.with(good, footer + 3, 10), 15, footer + 3);
         tape.behind = "xy";
         fault("bytes behind", tape.bytes(), 16, good.length);
         tape.rule = "EST5EDT,M3.2.0,M11.1.7";
@@ -344,29 +332,29 @@ public final class ReadTest {
         for (int version : new int[] {0, 51}) {
             byte[] good = rich(version).bytes();
             for (int size = 0; size < good.length; size++) {
-                fault("cut at " + size, cut(good, size), 1, size);
+                fault("cut at " + size, Kit.cut(good, size), 1, size);
             }
         }
         // A row is looked at when it is there, whatever is behind it; none of a row that is cut.
         Kit.Tape tape = rich(51);
-        byte[] bad = with(tape.bytes(), tape.place(0), 0x7F);
-        fault("row of times there", cut(bad, tape.place(1)), 5, tape.place(0));
-        fault("row of times cut", cut(bad, tape.place(1) - 1), 1, tape.place(1) - 1);
-        bad = with(tape.bytes(), tape.place(2) + 4, 3);
-        fault("row of types there", cut(bad, tape.place(3)), 8, tape.place(2) + 4);
-        fault("row of types cut", cut(bad, tape.place(3) - 1), 1, tape.place(3) - 1);
-        bad = with(tape.bytes(), tape.place(2) + 5, 17);
-        fault("CHAR there", cut(bad, tape.place(4)), 10, tape.place(2) + 5);
-        fault("CHAR cut", cut(bad, tape.place(4) - 1), 1, tape.place(4) - 1);
-        bad = with(tape.bytes(), tape.place(4) + 11, 3);
-        fault("leaps there", cut(bad, tape.place(5)), 12, tape.place(4) + 8);
-        fault("leaps cut", cut(bad, tape.place(5) - 1), 1, tape.place(5) - 1);
-        bad = with(tape.bytes(), tape.place(5), 3);
-        fault("STD there", cut(bad, tape.place(6)), 13, tape.place(5));
-        fault("STD cut", cut(bad, tape.place(6) - 1), 1, tape.place(6) - 1);
-        bad = with(tape.bytes(), tape.place(6), 3);
-        fault("UT there", cut(bad, tape.place(7)), 13, tape.place(6));
-        fault("UT cut", cut(bad, tape.place(7) - 1), 1, tape.place(7) - 1);
+        byte[] bad = Kit.with(tape.bytes(), tape.place(0), 0x7F);
+        fault("row of times there", Kit.cut(bad, tape.place(1)), 5, tape.place(0));
+        fault("row of times cut", Kit.cut(bad, tape.place(1) - 1), 1, tape.place(1) - 1);
+        bad = Kit.with(tape.bytes(), tape.place(2) + 4, 3);
+        fault("row of types there", Kit.cut(bad, tape.place(3)), 8, tape.place(2) + 4);
+        fault("row of types cut", Kit.cut(bad, tape.place(3) - 1), 1, tape.place(3) - 1);
+        bad = Kit.with(tape.bytes(), tape.place(2) + 5, 17);
+        fault("CHAR there", Kit.cut(bad, tape.place(4)), 10, tape.place(2) + 5);
+        fault("CHAR cut", Kit.cut(bad, tape.place(4) - 1), 1, tape.place(4) - 1);
+        bad = Kit.with(tape.bytes(), tape.place(4) + 11, 3);
+        fault("leaps there", Kit.cut(bad, tape.place(5)), 12, tape.place(4) + 8);
+        fault("leaps cut", Kit.cut(bad, tape.place(5) - 1), 1, tape.place(5) - 1);
+        bad = Kit.with(tape.bytes(), tape.place(5), 3);
+        fault("STD there", Kit.cut(bad, tape.place(6)), 13, tape.place(5));
+        fault("STD cut", Kit.cut(bad, tape.place(6) - 1), 1, tape.place(6) - 1);
+        bad = Kit.with(tape.bytes(), tape.place(6), 3);
+        fault("UT there", Kit.cut(bad, tape.place(7)), 13, tape.place(6));
+        fault("UT cut", Kit.cut(bad, tape.place(7) - 1), 1, tape.place(7) - 1);
     }
 
     private static void faultLeavesZone() {
@@ -374,7 +362,7 @@ public final class ReadTest {
         byte[] before = Kit.written(z, 0, 50);
         byte[] good = rich(51).bytes();
         for (int size = 0; size < good.length; size += 7) {
-            Kit.due("cut", Kit.read(z, 0, cut(good, size)), 1);
+            Kit.due("cut", Kit.read(z, 0, Kit.cut(good, size)), 1);
             Kit.due("place", z.place(), size);
         }
         Kit.due("the zone stays", Arrays.equals(before, Kit.written(z, 0, 50)), true);
