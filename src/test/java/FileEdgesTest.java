@@ -17,6 +17,7 @@ public final class FileEdgesTest {
         greatCounts();
         endsWithinHeaders();
         endsWithinRows();
+        endsWithinLongRows();
         blockNotLookedAt();
         footer();
         times();
@@ -95,10 +96,9 @@ public final class FileEdgesTest {
             Kit.Tape least = new Kit.Tape();
             least.version = version;
             taken("the least FILE of " + version, least);
-            Kit.Tape full = Kit.full(version);
-            full.firstCounts = new int[] {40, 40, 40, 200, 40, 200};
-            full.behind = "";
-            taken("the fullest FILE of " + version, full);
+            least.firstCounts = new int[] {40, 40, 40, 200, 40, 200};
+            taken("the fullest BLOCK that is not looked at", least);
+            taken("the fullest BLOCK of " + version, Kit.full(version));
         }
     }
 
@@ -291,6 +291,48 @@ public final class FileEdgesTest {
         }
     }
 
+    /** A FILE with much in one row, and as little as can be in those behind it. */
+    private static Kit.Tape muchIn(int version, int row) {
+        Kit.Tape full = Kit.full(version);
+        Kit.Tape tape = new Kit.Tape();
+        tape.version = version;
+        if (row <= 1) {
+            tape.times = Arrays.copyOf(full.times, 40);
+            tape.timeTypes = new int[40];
+        }
+        if (row == 2 || row >= 5) {
+            tape.types = new int[40][];
+            Arrays.fill(tape.types, new int[] {0, 0, 0});
+        }
+        if (row == 3) {
+            tape.chars = "UTC\0" + "\n".repeat(196);
+        }
+        if (row == 4) {
+            tape.leaps = full.leaps;
+        }
+        if (row == 5) {
+            tape.stds = full.stds;
+        }
+        if (row == 6) {
+            tape.uts = new int[40];
+        }
+        return tape;
+    }
+
+    private static void endsWithinLongRows() {
+        Kit.sentence(3, "where a row of bytes is needed, first 1, if the tape ends within it");
+        for (int version : VERSIONS) {
+            for (int row = 0; row < 7; row++) {
+                Kit.Tape tape = muchIn(version, row);
+                byte[] good = tape.bytes();
+                taken("much in row " + row, good);
+                for (int size = tape.place(row); size < tape.place(row + 1); size++) {
+                    refused("row " + row + " cut", Kit.cut(good, size), 1, size);
+                }
+            }
+        }
+    }
+
     private static void blockNotLookedAt() {
         Kit.sentence(3, "a BLOCK of width 4 whose bytes are not looked at");
         for (int octet : new int[] {0, 1, 10, 84, 255}) {
@@ -302,8 +344,12 @@ public final class FileEdgesTest {
         Kit.sentence(3, "of the one that is not looked at all together");
         Kit.Tape tape = three(51);
         byte[] good = tape.bytes();
-        for (int size = 44; size < ownHeader(tape); size++) {
-            refused("cut at " + size, Kit.cut(good, size), 1, size);
+        for (int octet : new int[] {10, 84}) {
+            byte[] any = good.clone();
+            Arrays.fill(any, 44, ownHeader(tape), (byte) octet);
+            for (int size = 44; size < ownHeader(tape); size++) {
+                refused("cut at " + size, Kit.cut(any, size), 1, size);
+            }
         }
         refused("its end, and no second HEADER", Kit.cut(good, ownHeader(tape)), 1, ownHeader(tape));
         Kit.sentence(3, "A BLOCK of width w");
@@ -686,6 +732,7 @@ public final class FileEdgesTest {
         lastTime(false, 1710054000L, new int[] {-14400, 1, 8}, chars);
         lastTime(false, 1710054000L, edt, "EST\0EDTX\0");
         lastTime(false, 1710054000L, edt, "EST\0EDt\0");
+        lastTime(false, 1710054000L, edt, "EST\0XDT\0");
         Kit.sentence(3, "17 there are times, and a RULE");
         Kit.Tape none = new Kit.Tape();
         none.rule = "XYZ9";

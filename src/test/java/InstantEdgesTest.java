@@ -176,6 +176,9 @@ public final class InstantEdgesTest {
         has(plain, Kit.LEAST, -100, 0, "LMT", 0);
         has(plain, 0L, -100, 0, "LMT", 0);
         has(plain, Kit.GREATEST, -100, 0, "LMT", 0);
+        Kit.Tape summer = zone("");
+        summer.types[0] = new int[] {93599, 1, 4};
+        has(Kit.filed(summer), 0L, 93599, 1, "DEF", 0);
         Kit.sentence(13, "from each on, before the next, what its type tells");
         ZoneFiles full = new ZoneFiles();
         Kit.due("a full ZONE", Kit.read(full, 0, Kit.full(50).bytes()), 0);
@@ -425,6 +428,12 @@ public final class InstantEdgesTest {
         tape.times = new long[] {1L, 2L, 3L, 4L, 5L};
         tape.timeTypes = new int[] {1, 2, 3, 4, 4};
         stepsAre(Kit.filed(tape), 1L, 2L, 3L, 4L, 5L);
+        // NAMES of one size that differ in the first, the second, the last byte.
+        tape.types = new int[][] {{0, 0, 0}, {0, 0, 4}, {0, 0, 8}, {0, 0, 12}};
+        tape.chars = "UTC\0XTC\0XXC\0XXX\0";
+        tape.times = new long[] {1L, 2L, 3L, 4L};
+        tape.timeTypes = new int[] {1, 2, 3, 3};
+        stepsAre(Kit.filed(tape), 1L, 2L, 3L, 4L);
     }
 
     private static void whatIsNoStep() {
@@ -531,6 +540,15 @@ public final class InstantEdgesTest {
         Kit.sentence(20, "The last STEP of a ZONE below an INSTANT");
         Kit.due("the last time, and not the beginning", late.last(0, end), begin + 1);
         Kit.due("nor below the last time", late.last(0, begin + 1), 10L);
+        // One time, and what it tells was there before: no STEP of the RULE counts up to it.
+        Kit.Tape one = zone(rule, end);
+        one.types[0] = one.types[2];
+        ZoneFiles only = Kit.filed(one);
+        Kit.sentence(19, "The first STEP of a ZONE above an INSTANT");
+        Kit.due("the beginning of the next year", only.next(0, 0L), begin + 365 * DAY);
+        Kit.sentence(20, "The last STEP of a ZONE below an INSTANT");
+        Kit.due("there is none", only.last(0, begin + 365 * DAY), ZoneFiles.NEVER);
+        Kit.due("there is none", only.last(0, end), ZoneFiles.NEVER);
     }
 
     private static void found(ZoneFiles z, long s, long... instants) {

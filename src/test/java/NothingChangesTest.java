@@ -67,75 +67,14 @@ public final class NothingChangesTest {
         return z;
     }
 
-    private static String zone(ZoneFiles z, int zone) {
-        StringBuilder all = new StringBuilder();
-        for (int what = 0; what < 8; what++) {
-            all.append(z.zone(zone, what)).append(' ');
-        }
-        for (int i = 0; i < z.zone(zone, 1); i++) {
-            all.append(z.time(zone, i)).append('/').append(z.typeAt(zone, i)).append(' ');
-        }
-        for (int i = 0; i < z.zone(zone, 2); i++) {
-            for (int what = 0; what < 6; what++) {
-                all.append(z.type(zone, i, what)).append(' ');
-            }
-        }
-        for (int i = 0; i < z.zone(zone, 4); i++) {
-            all.append(z.leap(zone, i, 0)).append('/').append(z.leap(zone, i, 1)).append(' ');
-        }
-        for (long t : new long[] {-101L, 0L, 99L, 5000000000L}) {
-            all.append(z.at(zone, t, 0)).append('/').append(z.next(zone, t)).append('/').append(z.last(zone, t)).append(' ');
-        }
-        return all.append(Kit.letters(z, zone, 0)).append(' ').append(Kit.letters(z, zone, 1)).toString();
-    }
-
-    private static String written(ZoneFiles z) {
-        StringBuilder all = new StringBuilder();
-        for (int i = 0; i < 200; i++) {
-            try {
-                all.append(z.out(i)).append(' ');
-            } catch (IndexOutOfBoundsException e) {
-                return all.append("end").toString();
-            }
-        }
-        return all.toString();
-    }
-
-    private static String found(ZoneFiles z) {
-        StringBuilder all = new StringBuilder();
-        for (int i = 0; i < 42; i++) {
-            try {
-                all.append(z.found(i)).append(' ');
-            } catch (IndexOutOfBoundsException e) {
-                return all.append("end").toString();
-            }
-        }
-        return all.toString();
-    }
-
-    private static String table(ZoneFiles z) {
-        StringBuilder all = new StringBuilder();
-        all.append(z.told(0)).append(' ').append(z.told(1)).append(' ');
-        for (int i = 0; i < z.told(0); i++) {
-            all.append(z.row(i, 0)).append('/').append(z.row(i, 1)).append(' ');
-        }
-        long leap = z.row(0, 0) + z.row(0, 1);
-        return all.append(z.atomic(z.row(0, 0))).append(' ').append(z.instant(leap)).append(' ').append(z.isLeap(leap)).toString();
-    }
-
-    private static String tape(ZoneFiles z) {
-        int fault = z.rule(2, true);
-        return fault + " " + z.place() + " " + Kit.letters(z, 2, 1) + " " + z.feed(1, 0L);
-    }
-
     private static String part(ZoneFiles z, int part) {
         switch (part) {
-            case 4: return written(z);
-            case 5: return found(z);
-            case 6: return table(z);
+            case 4: return Shown.written(z);
+            case 5: return Shown.found(z);
+            case 6: return Shown.table(z);
             case 7: return "" + z.place();
-            case 8: return tape(z);
-            default: return zone(z, part);
+            case 8: return Shown.tape(z);
+            default: return Shown.zone(z, part);
         }
     }
 

@@ -260,6 +260,16 @@ public final class TableEdgesTest {
         Kit.due("a full one again", Kit.table(z, "#@9999999999\n" + rows(60)), 0);
         Kit.due("ROWS", z.told(0), 60);
         Kit.due("its last ROW", z.row(59, 1), 59);
+        long last = 59L * 86400L - TO_1970;
+        Kit.sentence(27, "the number of the last ROW up to them");
+        Kit.due("before the last ROW", z.atomic(last - 1), last - 1 + 58);
+        Kit.due("at the last ROW", z.atomic(last), last + 59);
+        Kit.due("behind the last ROW", z.atomic(9999999998L - TO_1970), 9999999998L - TO_1970 + 59);
+        Kit.sentence(28, "The INSTANT of an atomic second");
+        Kit.due("behind the last ROW", z.instant(9999999998L - TO_1970 + 59), 9999999998L - TO_1970);
+        Kit.sentence(29, "Whether an atomic second is a LEAP second");
+        Kit.due("before the last ROW", z.isLeap(last + 58), true);
+        Kit.due("behind the last ROW", z.isLeap(9999999998L - TO_1970 + 59), false);
     }
 
     private static ZoneFiles two() {
